@@ -98,11 +98,11 @@ public final class VerandaTalk {
             case 3:
                 return now.talked[matter];
             case 4:
-                return flag(now.isSettled(matter));
+                return now.settled >> matter & 1;
             case 5:
-                return flag((now.shelved >> matter & 1) == 1);
+                return now.shelved >> matter & 1;
             case 6:
-                return flag(now.isReady(matter));
+                return now.isReady(matter) ? 1 : 0;
             case 7:
                 return now.stirOf(matter);
             case 8:
@@ -455,10 +455,6 @@ public final class VerandaTalk {
 
     private static boolean isPart(int part) {
         return part == 0 || part == 1;
-    }
-
-    private static int flag(boolean is) {
-        return is ? 1 : 0;
     }
 
     private static int withBit(int bits, int place, boolean is) {
@@ -936,8 +932,12 @@ public final class VerandaTalk {
             return (settled >> i & 1) == 1;
         }
 
+        int unsettledOnes() {
+            return (1 << size) - 1 & ~settled;
+        }
+
         int openOnes() {
-            return (1 << size) - 1 & ~settled & ~shelved;
+            return unsettledOnes() & ~shelved;
         }
 
         boolean isReady(int i) {
@@ -1014,7 +1014,7 @@ public final class VerandaTalk {
         }
 
         int netOf(int i) {
-            int unsettled = (1 << size) - 1 & ~settled;
+            int unsettled = unsettledOnes();
             int net = ties[i] & unsettled;
             // each round goes one tie further, and no way is longer than there are matters
             for (int round = 1; round < size; round++) {
@@ -1173,7 +1173,7 @@ public final class VerandaTalk {
          * the set is its last.
          */
         int loose(Veranda now) {
-            int unsettled = (1 << now.size) - 1 & ~now.settled;
+            int unsettled = now.unsettledOnes();
             dropped[0] = 0;
             for (int first = 1; first <= unsettled; first++) {
                 dropped[first] = Integer.MAX_VALUE;

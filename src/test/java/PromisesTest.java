@@ -115,6 +115,21 @@ public final class PromisesTest {
         same("3: due stays", x.told(1), 1);
         x.feed('x');
         same("3: full is ahead of a fault", x.station(), VerandaTalk.FULL);
+        promise3BehindFaults();
+    }
+
+    /** Nothing of a text with a fault is left for the next one. */
+    private static void promise3BehindFaults() {
+        VerandaTalk x = with(0, 0);
+        for (int i = 0; i < 4; i++) {
+            String text = "due 3;fade 4;warm 9 p=0&p=0&p=0&p=0&p=0&p=0&p=0&p=0&p=0&p=0&p=0&p=0&p=0&p=0&p=0;warm 1 p=0;";
+            same("3: a long one ends too early", Check.station(x, text), -10 - text.length());
+        }
+        same("3: a short one", Check.station(x, "warm 2 !(p=1&k=0);cool 1 p=1|k=1"), 0);
+        same("3: due is not of a faulty one", x.told(1), 20);
+        same("3: fade is not, either", x.told(2), 1);
+        same("3: warm and cool are not, either", x.of(0, 7), 7);
+        same("3: of the other", x.of(1, 7), 4);
     }
 
     private static void fault(String text, int place) {
@@ -166,6 +181,9 @@ public final class PromisesTest {
         fault("cool 6 !", 8);
         fault("cool 6 !!(!p<1)", -1);
         fault("cool 6 p<1!", 10);
+        fault("cool 6 p<1|", 11);
+        fault("cool 6 p<1|;", 11);
+        fault("cool 6 p<1&;due 1", 11);
         fault("cool 6 (((((p<1)))))", -1);
         fault("cool 6 ((((((p<1))))))", 12);
         fault("cool 6 !!!!!p<1", -1);
@@ -340,6 +358,8 @@ public final class PromisesTest {
             same("6: was 0", x.row(1, k, 2 * k + 1), 0);
         }
         same("6: was", x.row(1, 3, 9), 7);
+        same("6: to 0", x.row(1, 0, 0), 1);
+        same("6: from 0", x.row(1, 0, 1), 0);
         int[] stirs = {6, 8, 10, 14, 6};
         for (int stir : stirs) {
             same("6: stir at evening " + x.told(0), x.of(1, 7), stir);
@@ -399,6 +419,9 @@ public final class PromisesTest {
         same("9: was not", x.reopen(1), 0);
         same("9: talked all the same", x.of(1, 3), 0);
         same("9: age all the same", x.of(1, 2), 0);
+        x.talk(1);
+        x.talk(1);
+        same("9: the other one was", x.reopen(1), 1);
         x.shelve(0, true);
         x.reopen(0);
         same("9: stays shelved", x.of(0, 5), 1);
@@ -651,6 +674,7 @@ public final class PromisesTest {
         x.tie(2, 3, true);
         same("16: not through one settled", x.net(0), 2);
         same("16: of one settled", x.net(2), 24);
+        same("16: ring through none settled", x.told(7), 0);
         x.reopen(2);
         x.shelve(2, true);
         same("16: through one shelved", x.net(0), 30);
@@ -790,6 +814,7 @@ public final class PromisesTest {
         x.talk(0);
         same("21: 4 above", x.mean(0), 4);
         same("21: 1 below", x.mean(1), 1);
+        same("21: of one above", x.mean(0), 4);
         x.talk(1);
         same("21: none open", x.mean(0), NO);
     }
