@@ -274,7 +274,7 @@ public final class VerandaTalk {
         }
         hand.seenMatter[hand.seen] = matter;
         hand.seenAhead[hand.seen] = n;
-        hand.seenSettled[hand.seen] = isSettled;
+        hand.seenSettled = withBit(hand.seenSettled, hand.seen, isSettled);
         hand.seen++;
         return hand.seen;
     }
@@ -1050,7 +1050,8 @@ public final class VerandaTalk {
         int signs = 0;
         final int[] seenMatter = new int[SEEN_MOST];
         final int[] seenAhead = new int[SEEN_MOST];
-        final boolean[] seenSettled = new boolean[SEEN_MOST];
+        /** Whether each one of SEEN is SETTLED then, as bits. */
+        int seenSettled = 0;
         int seen = 0;
         final int[] planWhat = new int[PLAN_MOST];
         final int[] planMatter = new int[PLAN_MOST];
@@ -1064,7 +1065,7 @@ public final class VerandaTalk {
             signs = other.signs;
             System.arraycopy(other.seenMatter, 0, seenMatter, 0, SEEN_MOST);
             System.arraycopy(other.seenAhead, 0, seenAhead, 0, SEEN_MOST);
-            System.arraycopy(other.seenSettled, 0, seenSettled, 0, SEEN_MOST);
+            seenSettled = other.seenSettled;
             seen = other.seen;
             System.arraycopy(other.planWhat, 0, planWhat, 0, PLAN_MOST);
             System.arraycopy(other.planMatter, 0, planMatter, 0, PLAN_MOST);
@@ -1086,7 +1087,8 @@ public final class VerandaTalk {
         /** Whether what is SEEN so many EVENINGS ahead is so, if all is like that by then. */
         boolean isSo(Veranda then, int ahead) {
             for (int i = 0; i < seen; i++) {
-                if (seenAhead[i] == ahead && then.isSettled(seenMatter[i]) != seenSettled[i]) {
+                boolean isThen = (seenSettled >> i & 1) == 1;
+                if (seenAhead[i] == ahead && then.isSettled(seenMatter[i]) != isThen) {
                     return false;
                 }
             }
