@@ -67,6 +67,14 @@ final class Edges {
         check.same(sentence + ": " + row.text + " leaves " + first, first.equals("all") ? 1 : 0, 1);
     }
 
+    static String[] joined(String[]... parts) {
+        List<String> rows = new ArrayList<>();
+        for (String[] part : parts) {
+            rows.addAll(List.of(part));
+        }
+        return rows.toArray(new String[0]);
+    }
+
     private static VerandaTalk after(List<Row> rows) {
         VerandaTalk x = new VerandaTalk();
         for (Row row : rows) {

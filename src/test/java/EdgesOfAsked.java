@@ -61,12 +61,10 @@ final class EdgesOfAsked {
             "when 0", "when 1", "agenda 1 0", "agenda 4 0", "agenda 4 1", "agenda 4 13", "net 0", "dues 0", "dues 1",
             "firm 1 0", "firm 0 1", "odds 1 60 0", "odds 0 0 1", "mean 0", "mean 1", "done 0", "done 1", "looked",
             "trace 0", "as 2 1", "count 6"};
-        String[] rows = new String[busy.length + asks.length];
-        System.arraycopy(busy, 0, rows, 0, busy.length);
         for (int i = 0; i < asks.length; i++) {
-            rows[busy.length + i] = "still " + asks[i];
+            asks[i] = "still " + asks[i];
         }
-        e.edge("as it is then, and changes nothing", rows);
+        e.edge("as it is then, and changes nothing", Edges.joined(busy, asks));
     }
 
     private void on() {

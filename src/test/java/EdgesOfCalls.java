@@ -75,7 +75,7 @@ final class EdgesOfCalls {
         e.edge(behind, "matter 0 0", "text due 3;fade 4;warm 5 p=0;cool 9 !k=0|n=0; = -50", "text fade 9;warm 1 p=0 = 0",
             "told 1 = 20", "told 2 = 9", "of 0 7 = 6");
         e.edge(behind, "matter 0 0", "3 times text warm 9 p=0" + "&p=0".repeat(22) + "& = -109",
-            "text cool 1 p=0" + "&p=0".repeat(22) + " = 0", "of 0 7 = 4");
+            "text cool 1 p=1" + "&p=0".repeat(22) + " = 0", "of 0 7 = 5");
         e.edge(behind, "matter 0 0", "3 times text " + "warm 9 p=0;".repeat(8) + " = -98",
             "text " + "warm 1 p=0;".repeat(8) + "cool 1 p=1 = 0", "of 0 7 = 13");
         e.edge("FULL (ahead of all; THE TAPE stays).", "text due 1 = 0", "text due 2 = 1", "text due 3 = 2",
@@ -333,15 +333,16 @@ final class EdgesOfCalls {
             {"see -1 0 true", "see 1 1 false"}, {"see -1 0 true", "see 1 20 true"}, {"plan 1 1"}, {"plan -1 0"},
             {"plan -1 0", "plan 2 1"}, {"plan -1 0", "plan 1 2"}, {"book 0 9"}, {"book -1 0"}, {"book -1 0", "book 0 0"},
             {"book -1 0", "book 1 9"}};
+        String[] before = {"matter 6 3", "matter 1 2", "matter 2 0", "row 0 0 4", "tie 1 2 true",
+            "text due 6;fade 2;cool 1 v=2 = 0", "talk 0", "talk 2", "talk 2 = 5", "shelve 2 true", "tape fade 7",
+            "see 1 20 false", "plan 1 1", "plan 1 1", "book 1 0", "image = 3", "undo = 3"};
+        String[] behind = {"undo = 3", "still undo = 3", "count 0 = 3", "count 1 = 1", "count 2 = 1", "count 3 = 2",
+            "count 4 = 1", "count 5 = 6", "told 0 = 3", "told 1 = 6", "told 2 = 2", "told 3 = 5", "told 4 = 5",
+            "of 0 3 = 9", "of 0 2 = 0", "of 1 2 = 3", "of 1 8 = 4", "of 0 8 = 0", "of 2 3 = 10", "of 2 5 = 1",
+            "of 0 5 = 0", "done 0 = 7", "done 1 = 6", "dues 0 = 6", "looked = -5", "row 0 0 0 = 4", "row 0 3 0 = 0",
+            "station = 1", "told 2 = 7", "told 1 = 20"};
         for (String[] change : changes) {
-            e.edge("All is as THE IMAGE: how many MATTERS.", "matter 6 3", "matter 1 2", "matter 2 0", "row 0 0 4",
-                "tie 1 2 true", "text due 6;fade 2;cool 1 v=2 = 0", "talk 0", "talk 2", "talk 2 = 5", "shelve 2 true",
-                "tape fade 7", "see 1 20 false", "plan 1 1", "plan 1 1", "book 1 0", "image = 3", "undo = 3", change[0],
-                change[change.length - 1], "undo = 3",
-                "still undo = 3", "count 0 = 3", "count 1 = 1", "count 2 = 1", "count 3 = 2", "count 4 = 1", "count 5 = 6",
-                "told 0 = 3", "told 1 = 6", "told 2 = 2", "told 3 = 5", "told 4 = 5", "of 0 3 = 9", "of 0 2 = 0", "of 1 2 = 3",
-                "of 1 8 = 4", "of 0 8 = 0", "of 2 3 = 10", "of 2 5 = 1", "of 0 5 = 0", "done 0 = 7", "done 1 = 6", "dues 0 = 6", "looked = -5",
-                "row 0 0 0 = 4", "row 0 3 0 = 0", "station = 1", "told 2 = 7", "told 1 = 20");
+            e.edge("All is as THE IMAGE: how many MATTERS.", Edges.joined(before, change, behind));
         }
     }
 

@@ -20,7 +20,8 @@ final class EdgesOfHand {
     }
 
     private void seen() {
-        String sentence = "SEEN told by hand: one of MATTERS, n EVENINGS (0 .. 20) from now, whether it is SETTLED then; 5 at most";
+        String sentence = "SEEN told by hand: one of MATTERS, n EVENINGS (0 .. 20) from now, whether it is SETTLED then;"
+            + " 5 at most";
         e.edge(sentence, "matter 0 0", "text cool 4 p=0 = 0", "still see 0 -1 true = BAD", "see 0 20 true = 1",
             "still see 0 21 true = BAD", "dues 0 = 20", "see 0 19 false = 2", "dues 0 = 1", "dues 1 = 20",
             "see 0 0 false = 3", "dues 0 = 1", "see 0 1 false = 4", "dues 0 = 1", "see 0 0 true = 5", "dues 0 = 0",
@@ -113,6 +114,10 @@ final class EdgesOfHand {
     }
 
     private void image() {
+        e.edge("(but THE IMAGE and THE TRACE)", "still undo = STATE", "matter 4 0", "act 0 2 1", "image = 1", "count 6 = 7",
+            "trace 0 = 41", "trace 6 = 1", "act 0 0 1", "undo = 1", "count 6 = 2", "trace 0 = 11", "trace 2 = NONE",
+            "talk 0", "matter 0 0", "pass 3", "shelve 0 true", "reopen 0", "text due 3", "count 6 = 2", "trace 1 = 1",
+            "undo = 1", "count 0 = 1", "count 6 = 2");
         e.edge("THE IMAGE: all that there is (but THE IMAGE and THE TRACE)",
             "matter 6 1", "matter 1 2", "image = 2", "matter 0 9", "undo = 2", "count 0 = 2", "of 2 0 = -999999",
             "image = 2", "act 0 0 5", "act 1 2 5", "undo = 2", "count 6 = 4", "trace 0 = 3", "trace 3 = 1", "trace 4 = NONE");
