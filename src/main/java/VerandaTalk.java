@@ -12,11 +12,12 @@ public final class VerandaTalk {
     private static final int NOT_ANY = -5, OTHER_KIND = -6, FAULTY = -10, NONE_BELOW = -999999;
     private static final int KINDS = 7, TOLD_KIND = 6;
     private static final int MATTERS_MOST = 6, DIGIT_MOST = 9, TALKED_MOST = 99, EVENING_MOST = 9999;
+    private static final int TIES_MOST = MATTERS_MOST * (MATTERS_MOST - 1);
     private static final int TAPE_MOST = 100, SIGN_MOST = 127, STATIONS_MOST = 5;
     private static final int CLAUSES_MOST = 10, OPEN_MOST = 5;
     private static final int DUE_FIRST = 20, FADE_FIRST = 1;
     private static final int AHEAD_MOST = 60, SEEN_AHEAD_MOST = 20;
-    private static final int AGENDA_MOST = 4, AGENDA_NONE = 9;
+    private static final int AGENDA_MOST = 4, AGENDA_NONE = 9, AGENDAS_MOST = 7 * 7 * 7 * 7;
     private static final int DUES_MOST = 60, ODDS_MOST = 30;
     private static final int SEEN_MOST = 5, PLAN_MOST = 8, BOOK_MOST = 8, TRACE_MOST = 20;
     private static final int ROW_SIZE = 4;
@@ -759,28 +760,26 @@ public final class VerandaTalk {
 
         /** F. */
         private boolean readPart(int open) {
-            int sign = peek();
-            if (sign == '!' || sign == '(') {
-                if (open >= OPEN_MOST) {
+            int inside = open;
+            while (inside < OPEN_MOST && take('!')) {
+                inside++;
+            }
+            if (inside < OPEN_MOST && take('(')) {
+                if (!readEither(inside + 1) || !take(')')) {
                     return false;
                 }
-                at++;
-                if (sign == '(') {
-                    return readEither(open + 1) && take(')');
-                }
-                if (!readPart(open + 1)) {
+            } else {
+                int look = takeOneOf(LOOKS);
+                int order = look < 0 ? -1 : takeOneOf(ORDERS);
+                int n = order < 0 ? -1 : readNumber();
+                if (n < 0) {
                     return false;
                 }
+                put(look << 16 | order << 8 | n);
+            }
+            for (int i = open; i < inside; i++) {
                 put(NOT);
-                return true;
             }
-            int look = takeOneOf(LOOKS);
-            int order = look < 0 ? -1 : takeOneOf(ORDERS);
-            int n = order < 0 ? -1 : readNumber();
-            if (n < 0) {
-                return false;
-            }
-            put(look << 16 | order << 8 | n);
             return true;
         }
 
@@ -1137,27 +1136,45 @@ public final class VerandaTalk {
             return NOT_ANY;
         }
 
+        /** Counts the rows up like numbers, so that of several alike the first one stays the best. */
         void findAgenda(Veranda now, int n) {
+            int places = Math.min(n, AGENDA_MOST);
             steps[0].copyFrom(now);
             bestSettled = -1;
             bestCost = 0;
-            tryRows(0, Math.min(n, AGENDA_MOST));
+            for (int k = 0; k < places; k++) {
+                tried[k] = firstTalk(now.size);
+            }
+            int from = 0;
+            for (int row = 0; row < AGENDAS_MOST && from >= 0; row++) {
+                goRow(from, places);
+                judge(steps[places], places);
+                from = nextRow(places, now.size);
+            }
         }
 
-        /** In the order of the rows, so that of several alike the first one stays the best. */
-        private void tryRows(int k, int n) {
-            if (k >= n || k >= AGENDA_MOST) {
-                judge(steps[k], n);
-                return;
+        private static int firstTalk(int size) {
+            return size > 0 ? 0 : AGENDA_NONE;
+        }
+
+        /** Ahead of that place all goes as in the row before. */
+        private void goRow(int from, int places) {
+            for (int k = from; k < places; k++) {
+                steps[k + 1].copyFrom(steps[k]);
+                steps[k + 1].goOn(tried[k] == AGENDA_NONE ? NO_TALK : tried[k]);
             }
-            Veranda here = steps[k];
-            for (int i = 0; i <= here.size; i++) {
-                boolean isNone = i == here.size;
-                tried[k] = isNone ? AGENDA_NONE : i;
-                steps[k + 1].copyFrom(here);
-                steps[k + 1].goOn(isNone ? NO_TALK : i);
-                tryRows(k + 1, n);
+        }
+
+        /** The first place of the next row that differs from this one, or -1. */
+        private int nextRow(int places, int size) {
+            for (int k = places - 1; k >= 0; k--) {
+                if (tried[k] != AGENDA_NONE) {
+                    tried[k] = tried[k] + 1 < size ? tried[k] + 1 : AGENDA_NONE;
+                    return k;
+                }
+                tried[k] = firstTalk(size);
             }
+            return -1;
         }
 
         private void judge(Veranda then, int n) {
@@ -1178,7 +1195,7 @@ public final class VerandaTalk {
             int unsettled = now.unsettledOnes();
             dropped[0] = 0;
             for (int first = 1; first <= unsettled; first++) {
-                dropped[first] = Integer.MAX_VALUE;
+                dropped[first] = TIES_MOST;
                 for (int i = 0; i < now.size; i++) {
                     if ((first >> i & 1) == 1) {
                         int later = Integer.bitCount(now.ties[i] & unsettled & ~first);
